@@ -116,6 +116,10 @@ public final class PromiseTest {
     private static void loadErrors() {
         loadError("palett;", 1, 0);
         loadError("palettes;", 1, 0);
+        loadError("qalette;", 1, 0);
+        loadError("palette; cube a 1 2 3;", 1, 9);
+        loadError("palette; tube ;", 1, 14);
+        loadError("palette; mix ;", 1, 13);
         loadError("  \n ", 1, 4);
         loadError("palette tube", 1, 8);
         loadError("palette;;", 1, 8);
@@ -161,6 +165,7 @@ public final class PromiseTest {
         String four = "palette; tube a 0 0 0; tube b 0 0 0; tube c 0 0 0; tube d 0 0 0; tube e 0 0 0;"
             + "mix m = 1 a + 1 b + 1 c + 1 d";
         loadError(four + "+1e;", 3, 108);
+        loadError(four + "+9e;", 3, 108);
         loadError(four + "+10e;", 2, 108);
         loadError(four + "+0e;", 2, 108);
         loadError(four + "+e;", 1, 108);
@@ -186,6 +191,8 @@ public final class PromiseTest {
         loadError(mixes + "mix z=1a;", 3, mixes.length());
         Check.due("27: the 21st", Check.define(x, "z=1a") + " " + x.errorPosition(), "-13 0");
         Check.due("27: one that there is", Check.define(x, "mt=2b"), 19);
+        Check.due("3: one brush", Check.loaded("palette brushes 1 most 1;").size(4), 1);
+        Check.due("3: six brushes", Check.loaded("palette brushes 6 most 6;").size(4), 6);
         Check.due("3: words as names, numbers with zeros", Check.load(new PaletteTubes(), "palette brushes 006 most 01 tolerance 099999;"
             + "tube tube 000255 0 0 0009999;tube mix 1 1 1;mix palette=9tube+01mix;mix most=1mix;mix brushes=1mix;"), 2);
         Check.due("3: no blanks between", Check.load(new PaletteTubes(), "palette brushes6most1tolerance7;tube a1 2 3;mix b=1a;"), 1);
@@ -537,6 +544,11 @@ public final class PromiseTest {
         Check.due("21: none", x.spare(), -1);
         PaletteTubes y = Check.loaded("palette; tube a 0 0 0; tube b 9 0 0; tube c 0 0 9; mix i=1c; mix j=1a;");
         Check.due("22: two", y.closest(), 1);
+        Check.define(y, "i=1c+1b");
+        Check.define(y, "j=1c+1b");
+        Check.due("21: tube 0", y.spare(), 0);
+        Check.define(y, "i=1c");
+        Check.define(y, "j=1a");
         Check.define(y, "k=1b");
         Check.due("22: 1 and 2", y.closest(), 102);
         Check.define(y, "l=2c");
@@ -651,6 +663,9 @@ public final class PromiseTest {
         }
         Check.due("30: no tube in use", x.heal(1), -3);
         Check.due("30: operations", x.undoCount(), 8);
+        PaletteTubes y = Check.loaded("palette tolerance 99999; tube a 100 0 0; tube b 90 0 0; mix m = 1 b + 9 a;");
+        y.retire(1, true);
+        Check.due("30: fewer tubes than before", y.heal(0) + " " + Check.format(y, 0) + " " + y.mix(0, 3), "2 m=1a 1");
         for (int bad : new int[] {-1, 2, FIRST, LAST}) {
             Check.none("30: " + bad, () -> x.heal(bad));
         }
@@ -903,9 +918,12 @@ public final class PromiseTest {
         query(x, "many ((((((1=1)))))) and ((((((1=1))))))", 3);
         query(x, "many not not not not not not 1=1 and not not not not not not 1=1", 3);
         query(x, "\nmany\n1=1\n", 3);
+        x.forget(2);
+        query(x, "many not 1=2", 2);
+        query(new PaletteTubes(), "many not 1=2", 0);
         query(new PaletteTubes(), "many 1=1", 0);
         query(new PaletteTubes(), "first 1=1", -1);
-        Check.due("43: is no operation", x.undoCount(), 1);
+        Check.due("43: is no operation", x.undoCount(), 2);
     }
 
     private static void queryError(String text, int code, int position) {
