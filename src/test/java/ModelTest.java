@@ -1,8 +1,11 @@
 import java.util.Random;
 
-/** Runs of 512 calls, drawn by a fixed seed, on PaletteTubes and on PlainPalette: all answers are alike. */
+/** Runs of up to 512 calls, drawn by a fixed seed, on PaletteTubes and on PlainPalette: all answers are alike. */
 public final class ModelTest {
-    private static final int RUNS = 400;
+    private static final int RUNS = 600;
+    private static final int CALLS = 512;
+    /** More than any step makes, whose text may be longer than the buffer. */
+    private static final int MOST_OF_A_STEP = 70;
     private static final String[] NAMES = {"a", "b", "c", "red", "mix", "tube", "blue", "palette", "abcdefgh", "most", "x", "zz"};
     private static final int[] ODD = {-1, Integer.MIN_VALUE, Integer.MAX_VALUE, 20, 100, 16777216, 1000, 100000};
 
@@ -10,6 +13,7 @@ public final class ModelTest {
     private final PaletteTubes x = new PaletteTubes();
     private final PlainPalette y = new PlainPalette();
     private final StringBuilder calls = new StringBuilder();
+    private int made;
 
     private ModelTest(long seed) {
         random = new Random(seed);
@@ -26,12 +30,13 @@ public final class ModelTest {
     }
 
     private boolean run() {
-        for (int i = 0; i < 512; i++) {
+        for (int i = 0; made <= CALLS - MOST_OF_A_STEP; i++) {
             if (!step(i)) {
                 System.out.println(calls);
                 return false;
             }
         }
+        Check.due("calls of a run, " + made, made <= CALLS, true);
         return true;
     }
 
@@ -44,6 +49,7 @@ public final class ModelTest {
     }
 
     private boolean same(String what, Check.Call mine, Check.Call plain) {
+        made++;
         Object a = answer(mine);
         Object b = answer(plain);
         calls.append(what).append(" -> ").append(a).append('\n');
@@ -201,6 +207,7 @@ public final class ModelTest {
         if (kind < 55) {
             return operations(random.nextInt(13));
         }
+        made += 2;
         return asking(random.nextInt(26)) && x.errorPosition() == y.errorPosition() && x.undoCount() == y.undoCount();
     }
 
@@ -259,6 +266,7 @@ public final class ModelTest {
             return same("restoreSnapshot", x::restoreSnapshot, y::restoreSnapshot);
         }
         calls.append("saveSnapshot\n");
+        made++;
         x.saveSnapshot();
         y.saveSnapshot();
         return true;

@@ -776,56 +776,29 @@ public final class PromiseTest {
         Check.due("40: not the buffer", x.load(length), 0);
     }
 
-    private static String all(PaletteTubes x) {
-        StringBuilder text = new StringBuilder();
-        for (int what = 0; what < 10; what++) {
-            text.append(x.size(what)).append(' ');
-        }
-        for (int tube = 0; tube < x.size(0); tube++) {
-            for (int what = 0; what < 6; what++) {
-                text.append(x.tube(tube, what)).append(' ');
-            }
-        }
-        for (int mix = 0; mix < x.size(2); mix++) {
-            text.append(Check.format(x, mix)).append(' ');
-        }
-        for (int brush = 0; brush < x.size(4); brush++) {
-            for (int what = 0; what < 4; what++) {
-                text.append(x.brush(brush, what)).append(' ');
-            }
-        }
-        for (int painting = 0; painting < x.size(8); painting++) {
-            for (int what = 0; what < 4; what++) {
-                text.append(x.painting(painting, what)).append(' ');
-            }
-        }
-        return text.toString();
+    /** Few tubes and mixes, so that the whole state is told by few calls; each operation finds something to change. */
+    private static PaletteTubes worked() {
+        PaletteTubes x = Check.loaded("palette tolerance 99999; tube a 100 0 0 50; tube b 0 100 0; mix m=2a+1b; mix n=1b;");
+        x.paint(0, 1, 1);
+        x.clean(0);
+        x.paint(0, 1, 1);
+        x.retire(0, true);
+        return x;
     }
 
     private static void undoingEachOperation() {
-        PaletteTubes x = Check.loaded(PALETTE);
-        x.setTolerance(99999);
-        x.paint(0, 0, 1);
-        x.clean(0);
-        x.paint(0, 0, 1);
-        x.retire(0, true);
-        String before = all(x);
-        Check.Call[] operations = {() -> Check.define(x, "new=1red"), () -> Check.define(x, "four=1red"), () -> x.forget(0),
-            () -> x.retire(1, true), () -> x.retire(0, false), () -> x.heal(0), () -> x.clean(0), () -> x.change(),
-            () -> x.refill(1, 5), () -> x.setMost(1), () -> x.setTolerance(1)};
+        Check.On[] operations = {x -> Check.define(x, "o=1a"), x -> Check.define(x, "m=1b"), x -> x.forget(0),
+            x -> x.retire(1, true), x -> x.retire(0, false), x -> x.heal(0), x -> x.paint(0, 1, 3), x -> x.clean(0),
+            x -> x.change(), x -> x.refill(1, 5), x -> x.setMost(1), x -> x.setTolerance(1)};
         for (int i = 0; i < operations.length; i++) {
-            int count = x.undoCount();
-            operations[i].answer();
-            Check.due("40: operation " + i + " is recorded", x.undoCount(), count + 1);
-            Check.due("40: operation " + i + " changes something", all(x).equals(before), false);
-            x.undo();
-            Check.due("40: operation " + i, all(x), before);
+            PaletteTubes x = worked();
+            String before = Check.state(x);
+            operations[i].answer(x);
+            Check.due("40: operation " + i + " is recorded", x.undoCount(), 5);
+            Check.due("40: operation " + i + " changes something", Check.state(x).equals(before), false);
+            Check.due("40: operation " + i + ", left", x.undo(), 4);
+            Check.due("40: operation " + i, Check.state(x), before);
         }
-        x.retire(0, false);
-        String whole = all(x);
-        x.paint(0, 0, 3);
-        x.undo();
-        Check.due("40: paint", all(x), whole);
     }
 
     private static void notRecorded() {
@@ -852,12 +825,12 @@ public final class PromiseTest {
     }
 
     private static void snapshots() {
-        PaletteTubes x = Check.loaded(PALETTE);
+        PaletteTubes x = Check.loaded("palette; tube a 255 0 0; mix m=1a; mix n=2a; mix o=3a;");
         Check.due("42: none", x.restoreSnapshot(), false);
         x.paint(0, 0, 3);
         Check.due("42: nothing changes", x.undoCount(), 1);
         x.clean(0);
-        String saved = all(x);
+        String saved = Check.state(x);
         x.saveSnapshot();
         Check.due("41: undo stays", x.undoCount(), 2);
         x.retire(0, true);
@@ -866,15 +839,15 @@ public final class PromiseTest {
         x.setTolerance(1);
         x.change();
         Check.due("42: there is one", x.restoreSnapshot(), true);
-        Check.due("42: restored", all(x), saved);
+        Check.due("42: restored", Check.state(x), saved);
         Check.due("42: undo is cleared", x.undoCount() + " " + x.undo(), "0 -1");
         x.forget(0);
-        Check.due("42: it is kept", x.restoreSnapshot() + " " + all(x), "true " + saved);
+        Check.due("42: it is kept", x.restoreSnapshot() + " " + Check.state(x), "true " + saved);
         x.forget(0);
-        String later = all(x);
+        String later = Check.state(x);
         x.saveSnapshot();
         x.undo();
-        Check.due("41: undo leaves the snapshot", x.restoreSnapshot() + " " + all(x), "true " + later);
+        Check.due("41: undo leaves the snapshot", x.restoreSnapshot() + " " + Check.state(x), "true " + later);
         int length = Check.feed(x, "palette;");
         x.restoreSnapshot();
         Check.due("42: not the buffer", x.load(length), 0);
