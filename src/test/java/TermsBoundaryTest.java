@@ -19,6 +19,7 @@ public final class TermsBoundaryTest {
         broken();
         smallMixes();
         smallMixOrder();
+        smallMixEqualsAreFar();
         smallMixPartsOrder();
         brushes();
         paintedColours();
@@ -31,6 +32,7 @@ public final class TermsBoundaryTest {
         defaults();
         settingsRanges();
         textsThatEndEarly();
+        missing();
         tokensNotAllowed();
         severalCodes();
         keywordsOfThe21st();
@@ -278,6 +280,28 @@ public final class TermsBoundaryTest {
             "2 3 0 0 1 -1 2 1 -1");
     }
 
+    /** None of these mixes meets the colour, and two of them are as far from it. */
+    private static void smallMixEqualsAreFar() {
+        for (int blue : new int[] {0, 3}) {
+            String b = blue + ";";
+            ahead("as far by red, the smaller tube", "palette most 1; tube a 9 5 " + b + "tube b 3 5 " + b + "tube c 9 5 " + b, 0x060500,
+                "1 1 " + (18 + 3 * blue * blue) + " 0 -1 -1 1 -1 -1", 0x090500 + blue);
+            ahead("as far by green, the smaller tube", "palette most 1; tube a 5 3 " + b + "tube b 5 9 " + b + "tube c 5 3 " + b, 0x050600,
+                "1 1 " + (36 + 3 * blue * blue) + " 0 -1 -1 1 -1 -1", 0x050300 + blue);
+        }
+        ahead("as far by blue, the smaller tube", "palette most 1; tube a 5 5 9; tube b 5 5 3; tube c 5 5 9;", 0x050506,
+            "1 1 27 0 -1 -1 1 -1 -1", 0x050509);
+        ahead("as far, fewer parts", "palette most 6; tube a 5 5 9;", 0x050506, "1 1 27 0 -1 -1 1 -1 -1", 0x050509);
+        ahead("as far, the smaller second tube", "palette most 2; tube a 0 0 0; tube b 0 0 20; tube c 0 0 20;", 0x00000b,
+            "2 2 3 0 1 -1 1 1 -1", 0x00000a);
+        ahead("as far, fewer tubes", "palette most 2; tube a 0 0 0; tube b 0 0 20; tube c 0 0 10;", 0x00000b,
+            "1 1 3 2 -1 -1 1 -1 -1", 0x00000a);
+    }
+
+    private static void ahead(String what, String text, int colour, String want, int wantColour) {
+        Check.due("Small mixes: " + what, nearest(Check.loaded(text), colour, 3), wantColour + " " + want);
+    }
+
     /** Each mix needs a quarter of the green tube, and of the other two tubes that only with both is the red right. */
     private static void smallMixPartsOrder() {
         ahead("the smaller parts, at the second place", "palette; tube g 0 200 0; tube b 9 0 0; tube c 12 0 0;", 0x083200,
@@ -500,7 +524,24 @@ public final class TermsBoundaryTest {
         }
         loads("Errors: the text ends too early", "", "-11 at 0");
         loads("Errors: the text ends too early", "\n", "-11 at 1");
-        loads("Errors: the text ends too early", "palett", "-11 at 0");
+    }
+
+    private static void missing() {
+        String what = "Errors: 1, ';' where something is missing";
+        loads(what, "palette brushes ;", "-11 at 16");
+        loads(what, "palette most ;", "-11 at 13");
+        loads(what, "palette tolerance ;", "-11 at 18");
+        loads(what, "palette; tube ;", "-11 at 14");
+        loads(what, "palette; tube a ;", "-11 at 16");
+        loads(what, "palette; tube a 1 ;", "-11 at 18");
+        loads(what, "palette; tube a 1 2 ;", "-11 at 20");
+        loads(what, "palette; mix ;", "-11 at 13");
+        String tube = "palette; tube a 1 2 3; mix ";
+        loads(what, tube + "m ;", "-11 at 29");
+        loads(what, tube + "m = ;", "-11 at 31");
+        loads(what, tube + "m = 1 ;", "-11 at 33");
+        loads(what, tube + "m = 1 a + ;", "-11 at 37");
+        loads(what, tube + "m = 1 a + 1 ;", "-11 at 39");
     }
 
     private static void tokensNotAllowed() {
@@ -514,6 +555,15 @@ public final class TermsBoundaryTest {
                 }
                 loads("Errors: 1, the token is invalid, at its first byte", text.toString(), "-11 at " + at);
             }
+        }
+        for (String word : new String[] {"qalette", "palettd", "palett", "palettes", "p", "tube", "mix"}) {
+            loads("Errors: 1, another word", word + ";", "-11 at 0");
+        }
+        for (String word : new String[] {"tub", "tubf", "uube", "mi", "mixx", "nix", "palette", "most", "brushes"}) {
+            loads("Errors: 1, another word", "palette; " + word + " a 1 2 3;", "-11 at 9");
+        }
+        for (String word : new String[] {"brush", "brushet", "crushes", "mos", "nost", "tolerances", "uolerance"}) {
+            loads("Errors: 1, another word", "palette " + word + " 1;", "-11 at 8");
         }
         loads("Errors: 1, not allowed here", "palette;;", "-11 at 8");
         loads("Errors: 1, not allowed here", "palette palette;", "-11 at 8");
@@ -584,6 +634,18 @@ public final class TermsBoundaryTest {
         asks(x, "many 1=1 10000", "error 1 at 9");
         asks(x, "10000", "error 1 at 0");
         asks(x, "many mix=0 and red=0 and green=0 and blue=0 and tubes=1 and parts=1 and broken=0", "1 at -1");
+        x = Check.loaded("palette; tube a 0 0 0 9999; tube b 40 80 120 70; mix m = 1a; mix n = 3b + 1a;");
+        asks(x, "first mix=1", "1 at -1");
+        asks(x, "first tubes=2", "1 at -1");
+        asks(x, "first parts=4", "1 at -1");
+        asks(x, "first red=30", "1 at -1");
+        asks(x, "first green=60", "1 at -1");
+        asks(x, "first blue=90", "1 at -1");
+        asks(x, "first strokes=23", "1 at -1");
+        asks(x, "first broken=1", "-1 at -1");
+        x.retire(1, true);
+        asks(x, "first broken=1", "1 at -1");
+        asks(x, "many broken>1", "0 at -1");
         PaletteTubes y = new PaletteTubes();
         asks(y, "many 10000=1", "error 2 at 5");
         asks(y, "many 1=1", "0 at -1");
@@ -666,6 +728,20 @@ public final class TermsBoundaryTest {
         asks(x, "manyfirst mix=0", "error 1 at 0");
         asks(x, "many mix==0", "error 1 at 9");
         asks(x, "many mix=0 or and mix=0", "error 1 at 14");
+        asks(x, "many mix=or mix=0", "error 1 at 9");
+        asks(x, "many mix=and mix=0", "error 1 at 9");
+        asks(x, "many or mix=0", "error 1 at 5");
+        asks(x, "many not or mix=0", "error 1 at 9");
+        asks(x, "many (mix=) or mix=0", "error 1 at 10");
+        asks(x, "many (mix=0 or ) or mix=0", "error 1 at 15");
+        asks(x, "many (mix) or mix=0", "error 1 at 9");
+        for (String word : new String[] {"mixx", "mi", "nix", "tube", "part", "reds", "gree", "blu", "break", "stroke", "most", "many", "drops"}) {
+            asks(x, "many " + word + "=1", "error 1 at 5");
+            asks(x, "many 1=" + word, "error 1 at 7");
+        }
+        for (String word : new String[] {"man", "manyy", "lany", "firs", "girst", "firsts", "all", "not", "mix"}) {
+            asks(x, word + " mix=0", "error 1 at 0");
+        }
         asks(x, "many mix=0 not mix=0", "error 1 at 11");
     }
 }
