@@ -396,6 +396,8 @@ public final class PromiseBoundaryTest {
         Check.due("16: a retired one, too", x.shortest(4), 0);
         x.refill(2, 1);
         Check.due("16: then all have 10 strokes", x.shortest(2), 1);
+        PaletteTubes y = Check.loaded("palette; tube a 0 0 0; tube b 0 0 0 0; tube c 0 0 0 0; mix m=1c+1b; mix n=1c; mix o=1a+1c;");
+        Check.due("16: nothing is left", y.shortest(0) + " " + y.shortest(1) + " " + y.shortest(2), "1 2 2");
     }
 
     private static void wouldPaint() {
@@ -511,6 +513,7 @@ public final class PromiseBoundaryTest {
 
     private static void twins() {
         Check.due("23: without any", new PaletteTubes().twins(), 0);
+        Check.due("23: one, which is black", Check.loaded("palette; tube a 0 0 0; mix m=1a;").twins(), 0);
         StringBuilder text = new StringBuilder("palette; tube a 1 1 1; tube b 1 1 2;");
         for (int i = 0; i < 20; i++) {
             PaletteTubes x = Check.loaded(text.toString());
@@ -863,5 +866,11 @@ public final class PromiseBoundaryTest {
         Check.due("43: the most strokes", Check.queryAnswer(x, "many strokes=9999"), "3 at -1");
         x.retire(1, true);
         Check.due("43: the last is broken", Check.queryAnswer(x, "first broken=1"), "19 at -1");
+        x.forget(0);
+        Check.due("43: 19 are left", Check.queryAnswer(x, "many not 1=2") + " " + Check.queryAnswer(x, "first not mix<18"), "19 at -1 18 at -1");
+        for (int i = 0; i < 19; i++) {
+            x.forget(0);
+        }
+        Check.due("43: none is left", Check.queryAnswer(x, "many not 1=2") + " " + Check.queryAnswer(x, "first not 1=2"), "0 at -1 -1 at -1");
     }
 }
