@@ -42,6 +42,7 @@ public final class PromiseBoundaryTest {
         retire();
         heal();
         healOrder();
+        healedToFewerTubes();
         paint();
         clean();
         change();
@@ -683,6 +684,26 @@ public final class PromiseBoundaryTest {
         PaletteTubes y = Check.loaded("palette tolerance 99999; tube a 60 0 0 0; tube b 50 0 0; mix m=1b;");
         y.retire(1, true);
         Check.due("30: whatever is left in them", y.heal(0) + " " + Check.mix(y, 0), "200 m=1a");
+    }
+
+    /** All that is told of a mix of four tubes that is healed by one is as if it had been told so. */
+    private static void healedToFewerTubes() {
+        String tubes = "palette tolerance 99999; tube a 80 0 0 900; tube b 0 80 0 900; tube c 0 0 80 900; tube d 40 40 40 900; tube e 20 20 20 900;";
+        PaletteTubes x = Check.loaded(tubes + "mix m=2a+2b+2c+9d;");
+        x.setMost(1);
+        x.retire(0, true);
+        Check.due("30: becomes the nearest mix", x.heal(0) + " " + Check.mix(x, 0), x.apart(0x232323, 0x282828) + " m=1d");
+        PaletteTubes y = Check.loaded(tubes + "mix m=1d;");
+        y.setMost(1);
+        y.retire(0, true);
+        Check.due("30: its numbers", x.mix(0, 0) + " " + x.mix(0, 1) + " " + x.mix(0, 2) + " " + x.mix(0, 3) + " " + x.mix(0, 4) + " " + x.mix(0, 5),
+            "40 40 40 1 1 0");
+        Check.due("30: its strokes", x.strokes(0) + " " + x.shortest(0), "900 3");
+        Check.none("30: its tubes", () -> x.partOf(0, 1, false));
+        Check.due("30: what uses the tubes", x.tube(0, 5) + " " + x.tube(1, 5) + " " + x.tube(2, 5) + " " + x.tube(3, 5), "0 0 0 1");
+        Check.due("30: a query", Check.queryAnswer(x, "many parts=1 and tubes=1 and red=40 and strokes=900"), "1 at -1");
+        Check.due("30: painted", x.paint(0, 0, 9) + " " + Check.state(x), y.paint(0, 0, 9) + " " + Check.state(y));
+        Check.due("30: retired tubes that it had", x.retire(1, true) + " " + x.size(3), "0 0");
     }
 
     private static void paint() {

@@ -190,6 +190,10 @@ public final class TermsBoundaryTest {
         Check.due(what, Check.name(x, false, 1) + " " + Check.name(x, false, 0) + " " + Check.name(x, true, 0), "abcdefgh a b");
         Check.due(what, Check.defineAnswer(x, "hgfedcba = 1 a"), "1 at -1");
         Check.due(what, Check.defineAnswer(x, " hgfedcbaa = 1 a"), "-12 at 1");
+        PaletteTubes y = Check.loaded("palette; tube zzzzzzzz 9 8 7; mix yyyyyyyy = 1 zzzzzzzz;");
+        Check.due("Names: a full name leaves the colours alone", Check.mixed(y, "1zzzzzzzz") + " " + y.called(0) + " " + y.wouldPaint(0, 0) + " "
+            + y.paint(0, 0, 1) + " " + y.paint(0, 0, 1) + " " + Check.painting(y, 0) + " " + y.nearest(0, 3, 0),
+            0x090807 + " 0 " + 0x090807 + " " + 0x090807 + " " + 0x090807 + " " + 0x090807 + " 0 1 " + 0x090807 + " " + 0x090807);
         what = "Names: all tubes and named mixes have different names";
         loads(what, "palette; tube a 0 0 0; tube a 0 0 0;", "-13 at 28");
         loads(what, "palette; tube a 0 0 0; mix a = 1 a;", "-13 at 27");
@@ -245,6 +249,13 @@ public final class TermsBoundaryTest {
         Check.due("Small mixes: three of two parts are three of one", nearest(x, 0x141414, 3), 0x141414 + " 3 3 0 1 2 3 1 1 1");
         x.retire(1, true);
         Check.due("Small mixes: that are in use", x.nearest(0x3c0000, 3, 4), 0);
+        for (int most = 1; most <= 6; most++) {
+            PaletteTubes out = Check.loaded("palette most " + most + "; tube a 100 0 0; tube b 110 0 0; tube c 50 0 0; tube d 90 0 0;");
+            Check.due("Small mixes: each with 1 part or more, not less, MOST " + most, nearest(out, 0xc80000, 3),
+                0x6e0000 + " 1 1 16200 1 -1 -1 1 -1 -1");
+            Check.due("Small mixes: each with 1 part or more, not less, MOST " + most, nearest(out, 0, 3),
+                0x320000 + " 1 1 5000 2 -1 -1 1 -1 -1");
+        }
         PaletteTubes y = Check.loaded("palette most 3; tube a 9 0 0; tube b 0 9 0; tube c 60 90 120;");
         Check.due("Small mixes: all values of the third tube", nearest(y, 0x172128, 3), 0x172128 + " 3 3 0 0 1 2 1 1 1");
         y = Check.loaded("palette most 2; tube a 9 0 0; tube b 60 90 120;");
